@@ -47,12 +47,15 @@ public final class BlessedPins {
     private static final int LAST_CHARACTER = 126;
     private static final int MOST_CHARACTERS = 100;
 
-    private final State state = new State();
+    private final State state;
+    private final Meter meter;
     private final History history = new History();
-    private final Meter meter = new Meter(state.board);
     private final Program program = new Program();
 
     public BlessedPins() {
+        Board board = new Board();
+        state = new State(board);
+        meter = new Meter(board);
     }
 
     // ---- the board
@@ -639,7 +642,7 @@ public final class BlessedPins {
 
     /** Everything that the history keeps. */
     private static final class State {
-        final Board board = new Board();
+        final Board board;
         final int[] drawers = new int[MOST_FAULTS];
         int day;
         int planted = FAULTLESS;
@@ -648,7 +651,8 @@ public final class BlessedPins {
         int vouched;
         int tests;
 
-        State() {
+        State(Board board) {
+            this.board = board;
             Arrays.fill(drawers, NONE);
         }
 
@@ -689,7 +693,7 @@ public final class BlessedPins {
 
         History() {
             for (int i = 0; i < MOST_STATES; i++) {
-                states[i] = new State();
+                states[i] = new State(new Board());
             }
         }
 
@@ -815,12 +819,12 @@ public final class BlessedPins {
         }
 
         boolean sameOutcome(SuspectBoard other) {
-            if (inReach != other.inReach) {
+            // Whichever pin is driven with 0, the steady ones alone read 1: so one look is enough.
+            if (inReach != other.inReach || (steady & inReach) != (other.steady & inReach)) {
                 return false;
             }
             for (int pin = 0; pin < PINS; pin++) {
-                if (hasBit(inReach, pin) && (pinsAtOne(pin, 0) != other.pinsAtOne(pin, 0)
-                        || pinsAtOne(pin, 1) != other.pinsAtOne(pin, 1))) {
+                if (hasBit(inReach, pin) && pinsAtOne(pin, 1) != other.pinsAtOne(pin, 1)) {
                     return false;
                 }
             }
@@ -890,9 +894,18 @@ public final class BlessedPins {
                 probeAll(suspects, board.blessedOn(day));
                 for (int suspect = 0; suspect < SUSPECTS; suspect++) {
                     firstLike[day][suspect] = hasBit(suspects, suspect)
-                            ? Integer.numberOfTrailingZeros(probedLike(suspect, suspects)) : NONE;
+                            ? firstProbedLike(suspect, suspects) : NONE;
                 }
             }
+        }
+
+        int firstProbedLike(int suspect, int suspects) {
+            for (int other = 0; other < suspect; other++) {
+                if (hasBit(suspects, other) && supposed[suspect].sameOutcome(supposed[other])) {
+                    return other;
+                }
+            }
+            return suspect;
         }
 
         // What follows is told from the last week that was measured.
@@ -1108,16 +1121,15 @@ public final class BlessedPins {
                 return false;
             }
             int at = skipSpaces(stop, end);
-            for (many = 0; at < end; many++) {
+            for (many = 0; many < MOST_NUMBERS[word] && at < end; many++) {
                 stop = endOfToken(at, end);
-                int number = numberBetween(at, stop);
-                if (number == NONE || many >= MOST_NUMBERS[word]) {
+                numbers[many] = numberBetween(at, stop);
+                if (numbers[many] == NONE) {
                     return false;
                 }
-                numbers[many] = number;
                 at = skipSpaces(stop, end);
             }
-            return many >= FEWEST_NUMBERS[word] && areUnlike();
+            return at >= end && many >= FEWEST_NUMBERS[word] && areUnlike();
         }
 
         int wordBetween(int start, int end) {
