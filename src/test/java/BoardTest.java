@@ -86,6 +86,7 @@ public final class BoardTest {
         Check.due("chip(10, 11, 0)", x.chip(10, 11, 0), 3);
         Check.due("chip(12, 13, 0)", x.chip(12, 13, 0), 4);
         Check.due("a sixth with a pin of a chip", x.chip(14, 13, 0), NOT_POSSIBLE);
+        Check.due("a pin of the first one", x.chip(14, 0, 0), NOT_POSSIBLE);
         BlessedPins y = new BlessedPins();
         for (int i = 0; i < 5; i++) {
             Check.due("chip", y.chip(2 * i, 2 * i + 1, 0), i);

@@ -18,6 +18,7 @@ public final class MeasuringTest {
         wanted();
         shares();
         vouchersDoNotCount();
+        boardOfNow();
         wrongArguments();
         Check.finish("MeasuringTest");
     }
@@ -317,6 +318,30 @@ public final class MeasuringTest {
         y.bless(1, 1);
         y.fault(3, 0, 0);
         Check.due("all are told and differ on day 0", y.fewestDays(1, 1), 1);
+        Check.due("each is told on day 0", y.fewestDays(0, 1), 1);
+        BlessedPins w = new BlessedPins();
+        w.net(3);
+        w.fault(0, 0, 0);
+        w.fault(2, 0, 0);
+        w.bless(0, 2 + 4);
+        w.bless(1, 4 + 8);
+        Check.due("each is told on day 2", w.fewestDays(0, 1), 4);
+        w.fault(0, 1, 0);
+        Check.due("and two open ones are alike there", w.fewestDays(1, 1), 4);
+        w.bless(0, 2);
+        w.bless(1, 8);
+        Check.due("low alone is told", w.fewestDays(0, 1), 2);
+        BlessedPins v = new BlessedPins();
+        v.net(3);
+        v.fault(2, 0, 0);
+        v.fault(3, 0, 0);
+        v.net(12);
+        v.fault(2, 1, 0);
+        v.bless(0, 2 + 4);
+        v.bless(2, 4 + 8);
+        v.fault(0, 4, 0);
+        Check.due("told and unlike on day 2", v.fewestDays(1, 1), 4);
+        fewestDaysDiffer();
         BlessedPins z = new BlessedPins();
         for (int net = 0; net < 7; net++) {
             z.net(3 << 2 * net);
@@ -326,6 +351,32 @@ public final class MeasuringTest {
         Check.due("all seven", z.fewestDays(0, 1), 127);
         Check.due("all seven", z.fewestDays(0, 0), 7);
         Check.due("all seven for pairs", z.fewestDays(1, 0), 7);
+    }
+
+    /** The faults 0 and 1 are told on day 0, where they look alike; on day 3 1 is told, but 0 is not. */
+    private static void fewestDaysDiffer() {
+        BlessedPins x = chain();
+        x.bless(0, 1);
+        x.bless(3, 1);
+        x.fault(4, 0, 0);
+        x.fault(2, 0, 0);
+        x.bless(1, 8);
+        Check.due("day 0 tells both", x.fewestDays(0, 1), 1);
+        Check.due("day 0 tells both", x.fewestDays(0, 0), 1);
+        Check.due("but from each other on day 3 alone", x.fewestDays(1, 1), 1 + 8);
+        Check.due("but from each other on day 3 alone", x.fewestDays(1, 0), 2);
+        BlessedPins y = new BlessedPins();
+        for (int net = 0; net < 5; net++) {
+            y.net(3 << 2 * net);
+            y.fault(2, net, 0);
+            y.fault(3, net, 0);
+            y.bless(2 * net, 1 << net);
+        }
+        Check.due("ten faults are told", y.fewestDays(0, 1), 31);
+        Check.due("ten faults are unlike", y.fewestDays(1, 1), 31);
+        Check.due("outcomes(4)", y.outcomes(4), 3);
+        Check.due("likes(4, 9)", y.likes(4, 9), 512);
+        Check.due("likes(4, 7)", y.likes(4, 7), 1024 + 255);
     }
 
     private static void wanted() {
@@ -397,6 +448,42 @@ public final class MeasuringTest {
         Check.due("share(0)", x.share(0), 0);
         Check.due("outcomes(0)", x.outcomes(0), 1);
         Check.due("count(7)", x.count(7), 1);
+    }
+
+    /** Each answer is of the board as it is now, whatever was asked before. */
+    private static void boardOfNow() {
+        BlessedPins x = new BlessedPins();
+        x.net(3);
+        x.fault(2, 0, 0);
+        x.fault(0, 0, 0);
+        Check.promise(12);
+        Check.due("alike(0, NONE) before", x.alike(0, NONE), 127);
+        x.bless(0, 1);
+        Check.due("alike(0, NONE)", x.alike(0, NONE), 126);
+        x.bless(0, 2);
+        Check.promise(11);
+        Check.due("daysOf(0)", x.daysOf(0), 2);
+        x.bless(0, 0);
+        Check.promise(13);
+        Check.due("twin(0)", x.twin(0), 1);
+        x.bless(0, 4);
+        Check.promise(14);
+        Check.due("outcomes(2)", x.outcomes(2), 2);
+        x.bless(0, 8);
+        Check.promise(15);
+        Check.due("likes(3, 0)", x.likes(3, 0), 1);
+        x.bless(0, 16);
+        Check.promise(16);
+        Check.due("fewestDays(0, 1)", x.fewestDays(0, 1), 16);
+        x.bless(0, 32);
+        Check.promise(17);
+        Check.due("wanted(0, 5, 0)", x.wanted(0, 5, 0), 0);
+        Check.promise(18);
+        Check.due("share(5)", x.share(5), Float.floatToIntBits(0.5f));
+        x.plant(0);
+        x.bless(0, 64);
+        Check.promise(25);
+        Check.due("bestDay(0)", x.bestDay(0), 6);
     }
 
     private static void wrongArguments() {

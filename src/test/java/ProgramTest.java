@@ -10,6 +10,8 @@ public final class ProgramTest {
         forms();
         missingParts();
         otherwise();
+        textsChange();
+        fullTexts();
         running();
         runningIsOneChange();
         Check.finish("ProgramTest");
@@ -118,6 +120,8 @@ public final class ProgramTest {
         faultDue("short 1 1;", 0, 1);
         faultDue("short 0 1 2;", 0, 1);
         faultDue("low;", 0, 1);
+        faultDue("high;", 0, 1);
+        faultDue("dead;", 0, 1);
         faultDue("high 0 1;", 0, 1);
         faultDue("dead 0 0;", 0, 1);
         faultDue("bless;", 0, 1);
@@ -158,6 +162,38 @@ public final class ProgramTest {
         faultDue("low 0;net 1;", 0, 3);
     }
 
+    private static void textsChange() {
+        Check.promise(31);
+        BlessedPins x = new BlessedPins();
+        Check.write(x, "low 0;");
+        Check.due("place(0)", x.place(0), 0);
+        Check.due("place(1)", x.place(1), 2);
+        x.net(3);
+        Check.due("the board is that of now", x.place(1), NOT_FOUND);
+        Check.write(x, "lo");
+        Check.due("place(0)", x.place(0), 6);
+        x.clearText();
+        Check.due("place(0) of an empty text", x.place(0), NOT_FOUND);
+        Check.due("place(1) of an empty text", x.place(1), NOT_FOUND);
+        Check.promise(32);
+        Check.due("run() of an empty text", x.run(), 0);
+    }
+
+    /** With all 100 characters the text has no place behind its end. */
+    private static void fullTexts() {
+        fineDue(" ".repeat(100), 0);
+        fineDue("low 1;" + " ".repeat(94), 1);
+        fineDue(" ".repeat(94) + "low 1;", 1);
+        fineDue("net " + " ".repeat(92) + "8 9;", 1);
+        faultDue("x".repeat(100), 0, 1);
+        faultDue(" ".repeat(99) + "x", 99, 1);
+        faultDue(" ".repeat(99) + ";", 99, 1);
+        faultDue("low 1;" + " ".repeat(89) + "low 1", 95, 1);
+        faultDue("open" + " ".repeat(96), 0, 1);
+        faultDue("net 8 9 10 11 12" + " 13".repeat(28), 0, 1);
+        faultDue(";".repeat(100), 0, 1);
+    }
+
     private static void running() {
         Check.promise(32);
         BlessedPins x = new BlessedPins();
@@ -170,6 +206,9 @@ public final class ProgramTest {
         Check.due("count(0)", x.count(0), 2);
         Check.due("pinOf(2, 0)", x.pinOf(2, 0), 0);
         Check.due("pinOf(5, 0)", x.pinOf(5, 0), 1);
+        x.bless(0, 1);
+        x.bless(2, 1);
+        Check.due("net 0 reads as one", x.reads(0, BlessedPins.NONE, 0, 1), 5);
         Check.due("pinOf(6, 2)", x.pinOf(6, 2), 0);
         Check.due("pinOf(7, 2)", x.pinOf(7, 2), 1);
         Check.due("pinOf(8, 2)", x.pinOf(8, 2), 2);

@@ -179,6 +179,14 @@ public final class TestingTest {
         Check.due("day 0 comes before day 4", x.bestDay(0), 0);
         x.pass(2);
         Check.due("the present day", x.bestDay(0), 0);
+        BlessedPins y = new BlessedPins();
+        y.net(3);
+        y.fault(2, 0, 0);
+        y.fault(0, 0, 0);
+        y.bless(0, 1);
+        y.plant(0);
+        y.test();
+        Check.due("fault 0 alone is left", y.bestDay(1), 1);
         x.vouch(1);
         Check.due("vouchers do not count", x.bestDay(1), 3);
         x.test();
@@ -251,6 +259,36 @@ public final class TestingTest {
         Check.due("undo()", x.undo(), NOT_POSSIBLE);
         Check.due("net(5), free again", x.net(5), 0);
         undoingMore();
+        undoingPlantings();
+    }
+
+    private static void undoingPlantings() {
+        BlessedPins x = board();
+        x.bless(0, 1);
+        x.plant(0);
+        x.plant(1);
+        Check.due("undo() of plant(1)", x.undo(), 3);
+        Check.due("fault 0 is planted again", x.test(), 1);
+        Check.due("suspects()", x.suspects(), 1);
+        Check.due("undo() of test", x.undo(), 3);
+        Check.due("suspects()", x.suspects(), 1024 + 15);
+        Check.due("undo() of plant(0)", x.undo(), 2);
+        Check.due("nothing is planted", x.test(), 1);
+        Check.due("suspects()", x.suspects(), 1024);
+        BlessedPins y = board();
+        y.net(64 + 128);
+        y.bless(6, 1);
+        y.bless(7, 1);
+        Check.due("undo() of bless(7, 1)", y.undo(), 3);
+        Check.due("pinOf(7, 3)", y.pinOf(7, 3), 0);
+        Check.due("undo() of bless(6, 1)", y.undo(), 2);
+        Check.due("undo() of net", y.undo(), 1);
+        Check.due("count(0)", y.count(0), 3);
+        y.net(64 + 256);
+        y.bless(6, 1);
+        y.bless(7, 1);
+        y.bless(8, 1);
+        Check.due("another net in its place", y.reads(0, NONE, 6, 1), 64 + 256);
     }
 
     private static void undoingMore() {
