@@ -13,6 +13,7 @@ public final class MeasuringTest {
         readings();
         told();
         twins();
+        twinsOfTen();
         outcomesAndLikes();
         fewestDays();
         wanted();
@@ -244,6 +245,33 @@ public final class MeasuringTest {
         Check.due("dead 0 is no more like dead 1, but like open 1", x.twin(1), 4);
         Check.due("open 1 is like dead 0", x.twin(4), 1);
         Check.due("dead 1 is unlike on the last day alone", x.twin(2), NOT_FOUND);
+    }
+
+    private static void twinsOfTen() {
+        Check.promise(13);
+        BlessedPins x = new BlessedPins();
+        for (int net = 0; net < 8; net++) {
+            x.net(3 << 2 * net);
+            x.bless(2 * net, 1);
+            x.fault(2, net, 0);
+        }
+        x.fault(3, 0, 0);
+        x.fault(0, 1, 0);
+        Check.due("count(2)", x.count(2), 10);
+        Check.due("no fault is no twin", x.twin(9), NONE);
+        Check.due("the last net, low", x.twin(7), NOT_FOUND);
+        x.undo();
+        x.bless(15, 2);
+        x.fault(0, 15, 0);
+        Check.due("an open pin, touched alone", x.twin(9), NONE);
+        x.bless(15, 1);
+        Check.due("an open pin, touched with its net", x.twin(9), NOT_FOUND);
+        BlessedPins y = new BlessedPins();
+        for (int pin = 0; pin < 10; pin++) {
+            y.fault(0, pin, 0);
+        }
+        Check.due("the first one's twin", y.twin(0), 1);
+        Check.due("the last one's twin", y.twin(9), 0);
     }
 
     private static void outcomesAndLikes() {

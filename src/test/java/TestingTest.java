@@ -187,6 +187,18 @@ public final class TestingTest {
         y.plant(0);
         y.test();
         Check.due("fault 0 alone is left", y.bestDay(1), 1);
+        BlessedPins z = new BlessedPins();
+        for (int pin = 0; pin < 10; pin++) {
+            z.fault(0, pin, 0);
+        }
+        z.pass(5);
+        Check.due("all that there can be", z.plant(9), 11);
+        Check.due("all eleven look alike", z.bestDay(1), 11);
+        Check.due("on the present day, too", z.bestDay(0), 5);
+        Check.promise(26);
+        Check.due("the tenth into its drawer", z.file(9, 0), 1);
+        Check.due("count(11)", z.count(11), 1);
+        Check.promise(25);
         x.vouch(1);
         Check.due("vouchers do not count", x.bestDay(1), 3);
         x.test();
