@@ -2,20 +2,29 @@
 final class Check {
     private static int answers = 0;
     private static int wrong = 0;
-    private static String promise = "";
+    private static String told = "";
 
     private Check() {
     }
 
     static void promise(int number) {
-        promise = "promise " + number;
+        told = "promise " + number;
+    }
+
+    /** What follows tests one sentence of the document, which stands under this heading. */
+    static void sentence(String heading, String words) {
+        told = heading + ", '" + words + "'";
+    }
+
+    static void sentence(int promise, String words) {
+        sentence("promise " + promise, words);
     }
 
     static void due(String call, long got, long want) {
         answers++;
         if (got != want) {
             wrong++;
-            System.out.println(promise + ": " + call + " answered " + got + ", due is " + want);
+            System.out.println(told + ": " + call + " answered " + got + ", due is " + want);
         }
     }
 
@@ -23,6 +32,14 @@ final class Check {
         System.out.println(test + ": " + answers + " answers, " + wrong + " of them not as due");
         if (wrong != 0 || answers == 0) {
             System.exit(1);
+        }
+    }
+
+    static void same(String call, String got, String want) {
+        answers++;
+        if (!got.equals(want)) {
+            wrong++;
+            System.out.println(told + ": " + call + "\n  answered " + got + "\n  due is   " + want);
         }
     }
 

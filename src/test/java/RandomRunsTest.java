@@ -1,6 +1,7 @@
 /** Long runs of calls, the same each time, in which the class and the oracle have to agree. */
 public final class RandomRunsTest {
-    private static final int RUNS = 400;
+    private static final int RUNS = 600;
+    /** Behind these an object's answers are free. */
     private static final int CALLS = 512;
     private static final int METHODS = 31;
     private static final int[] ODD = {-1, -2, 7, 10, 16, 127, 128, 65536, Integer.MAX_VALUE, Integer.MIN_VALUE};
@@ -10,6 +11,7 @@ public final class RandomRunsTest {
     private final Oracle o = new Oracle();
     private final StringBuilder log = new StringBuilder();
     private long seed;
+    private int calls;
 
     private RandomRunsTest(long seed) {
         this.seed = seed;
@@ -36,7 +38,7 @@ public final class RandomRunsTest {
     }
 
     private int suspect() {
-        return below(3) == 0 ? -1 : about(Math.max(1, x.count(2)));
+        return below(3) == 0 ? -1 : about(Math.max(1, o.count(2)));
     }
 
     private int someOf(int range, int many) {
@@ -49,8 +51,8 @@ public final class RandomRunsTest {
 
     private boolean agrees(int run) {
         int building = 20 + below(60);
-        for (int call = 0; call < CALLS; call++) {
-            int method = call < building && below(3) > 0 ? below(4) : below(METHODS);
+        while (calls < CALLS) {
+            int method = calls < building && below(3) > 0 ? below(4) : below(METHODS);
             int a = 0;
             int b = 0;
             int c = 0;
@@ -110,7 +112,7 @@ public final class RandomRunsTest {
                 case 23, 29 -> a = about(2);
                 case 24 -> {
                     a = suspect();
-                    b = below(2) == 0 ? Math.max(-1, x.faultOf(a, 0)) : about(5);
+                    b = below(2) == 0 ? Math.max(-1, o.faultOf(a, 0)) : about(5);
                 }
                 case 25 -> a = about(16);
                 case 27 -> a = 32 + about(95);
@@ -118,21 +120,20 @@ public final class RandomRunsTest {
             }
             if (method == 27 && below(3) > 0) {
                 write();
-                continue;
-            }
-            if (!compare(run, call, method, new int[] {a, b, c, d})) {
+            } else if (!compare(run, method, new int[] {a, b, c, d})) {
                 return false;
             }
         }
         return true;
     }
 
-    private boolean compare(int run, int call, int method, int[] args) {
+    private boolean compare(int run, int method, int[] args) {
+        calls++;
         int got = answer(method, args);
         int want = due(method, args);
         String told = "method " + method + " with " + java.util.Arrays.toString(args);
         log.append(told).append(" answered ").append(got).append('\n');
-        Check.due("run " + run + ", call " + call + ", " + told, got, want);
+        Check.due("run " + run + ", call " + calls + ", " + told, got, want);
         if (got != want) {
             System.out.println(log);
         }
@@ -164,6 +165,10 @@ public final class RandomRunsTest {
             if (below(50) == 0) {
                 text.setCharAt(below(text.length()), (char) (32 + below(95)));
             }
+        }
+        calls += 1 + text.length() + 3;
+        if (calls > CALLS) {
+            return;
         }
         Check.due("clearText()", x.clearText(), o.clearText());
         for (int i = 0; i < text.length(); i++) {
